@@ -11,12 +11,6 @@ public final class LogPresetTest {
         Check.end("LogPresetTest");
     }
 
-    private static void edit(KnobMenu x, int detents) {
-        Check.equal("press", x.press(), 3);
-        x.turn(detents);
-        Check.equal("press", x.press(), 4);
-    }
-
     private static KnobMenu two() {
         KnobMenu x = new KnobMenu();
         x.addNumber(0, 0, 100, 1);
@@ -27,10 +21,10 @@ public final class LogPresetTest {
     private static void takeBack() {
         KnobMenu x = two();
         Check.badState(x, "takeBack of nothing", () -> x.takeBack());
-        edit(x, 3);
-        edit(x, 4);
+        Check.edit(x, 3);
+        Check.edit(x, 4);
         x.turn(1);
-        edit(x, 2);
+        Check.edit(x, 2);
         x.tick(4);
         Check.equal("logged()", x.logged(), 3);
         Check.equal("takeBack", x.takeBack(), 2);
@@ -51,7 +45,7 @@ public final class LogPresetTest {
     private static void takeBackOldestRemoved() {
         KnobMenu x = two();
         for (int i = 1; i <= 10; i++) {
-            edit(x, 1);
+            Check.edit(x, 1);
             Check.equal("logged()", x.logged(), Math.min(i, 8));
         }
         for (int i = 9; i >= 2; i--) {
@@ -65,7 +59,7 @@ public final class LogPresetTest {
 
     private static void takeBackWhileEditing() {
         KnobMenu x = two();
-        edit(x, 3);
+        Check.edit(x, 3);
         x.press();
         x.turn(1);
         Check.equal("takeBack", x.takeBack(), 1);
@@ -100,12 +94,12 @@ public final class LogPresetTest {
 
     private static void loadPreset() {
         KnobMenu x = two();
-        edit(x, 3);
+        Check.edit(x, 3);
         Check.equal("savePreset(0)", x.savePreset(0), 2);
         Check.equal("logged() stays", x.logged(), 1);
-        edit(x, 4);
+        Check.edit(x, 4);
         x.turn(1);
-        edit(x, 2);
+        Check.edit(x, 2);
         Check.equal("savePreset(1)", x.savePreset(1), 2);
         x.press();
         x.turn(1);
@@ -122,7 +116,7 @@ public final class LogPresetTest {
         Check.equal("loadPreset(1)", x.loadPreset(1), 2);
         Check.equal("value(1)", x.value(1), 7);
         Check.equal("value(2)", x.value(2), 2);
-        edit(x, 1);
+        Check.edit(x, 1);
         x.press();
         x.turn(-1);
         x.press();
@@ -131,7 +125,7 @@ public final class LogPresetTest {
         Check.equal("events(2)", x.events(2), 6);
         x.savePreset(0);
         Check.equal("loadPreset(0) in place of the old one", x.loadPreset(0), 0);
-        edit(x, 2);
+        Check.edit(x, 2);
         Check.equal("loadPreset(0) of one item", x.loadPreset(0), 1);
     }
 
@@ -141,7 +135,7 @@ public final class LogPresetTest {
         x.addMenu(0);
         x.addNumber(0, -5, 5, 1);
         x.turn(3);
-        edit(x, 2);
+        Check.edit(x, 2);
         Check.equal("loadPreset(0)", x.loadPreset(0), 0);
         Check.equal("value(4) stays", x.value(4), -3);
         Check.equal("logged()", x.logged(), 0);
@@ -150,7 +144,7 @@ public final class LogPresetTest {
     private static void emptyPreset() {
         KnobMenu x = two();
         Check.badState(x, "loadPreset(0)", () -> x.loadPreset(0));
-        edit(x, 1);
+        Check.edit(x, 1);
         x.savePreset(0);
         Check.badState(x, "loadPreset(1)", () -> x.loadPreset(1));
         Check.equal("logged() stays", x.logged(), 1);
